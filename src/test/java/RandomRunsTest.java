@@ -40,7 +40,9 @@ public final class RandomRunsTest {
                 calls++;
             } else if (dice < 25) {
                 calls += tell(seed, random, x, plain);
-            } else if (dice < 30) {
+            } else if (dice < 27) {
+                calls += fillSheet(seed, random, x, plain);
+            } else if (dice < 32) {
                 compare(seed, x, plain, "means", random.nextInt(10), random.nextInt(400) - 200);
                 calls++;
             } else {
@@ -70,6 +72,13 @@ public final class RandomRunsTest {
             return random.nextInt(40) == 0 ? random.nextInt(8) - 2 : random.nextInt(4);
         }
         switch (act) {
+            case "like":
+            case "join":
+            case "same":
+            case "lays":
+            case "show":
+            case "check":
+                return random.nextInt(4);
             case "order":
             case "read":
                 return random.nextInt(600) - 300;
@@ -99,6 +108,23 @@ public final class RandomRunsTest {
     private static int strange(Random random) {
         int[] some = {Integer.MIN_VALUE, Integer.MAX_VALUE, -1, 10000, -10000, 9999, -9999, 40, 41, 1 << 31 >> 8};
         return random.nextBoolean() ? random.nextInt() : some[random.nextInt(some.length)];
+    }
+
+    /** A sheet of garments, or of a line's worths so that check may find them. */
+    private static int fillSheet(int seed, Random random, LinenSigns x, PlainTown plain) throws Exception {
+        int s = random.nextInt(4);
+        int line = random.nextInt(4);
+        int length = plain.lines.get(line).size() + (random.nextInt(3) == 0 ? 1 : 0);
+        boolean isWorths = random.nextBoolean();
+        compare(seed, x, plain, "sheet", s, new int[] {8, 16, 64}[random.nextInt(3)], length);
+        for (int i = 0; i < length; i++) {
+            long worth = PlainTown.worth(plain.lines.get(line).subList(0, Math.min(i + 1, plain.lines.get(line).size())), plain.wind);
+            boolean isWrong = random.nextInt(20) == 0;
+            long code = 10 * random.nextInt(6) + 1 + random.nextInt(9);
+            compare(seed, x, plain, "write", s, i, isWrong ? random.nextLong() : isWorths ? worth : code);
+        }
+        compare(seed, x, plain, isWorths ? "check" : "lays", s, line);
+        return length + 2;
     }
 
     /** A text that mostly is one, with a wrong token now and then. */
