@@ -67,6 +67,9 @@ public final class MeaningsTest {
         x.forget(6);
         x.forget(5);
         Due.is("apart: forgotten ones don't count", x.apart(), 999);
+        x.means(1, 100);
+        x.means(2, 103);
+        Due.is("apart: neighbours by meaning", x.apart(), 3);
         Due.is("NONE told", x.status(3), 2);
     }
 }

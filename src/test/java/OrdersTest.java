@@ -25,6 +25,17 @@ public final class OrdersTest {
         Due.means(x, 35, 34);
         Due.is("orders: like ones are told apart", x.orders(0, 0), 5040);
         Due.is("orders: none of them", x.orders(0, 1), 0);
+        Due.is("orders: asked again", x.orders(0, 0), 5040);
+        Due.hangAll(x, 1, 12, 11, 31);
+        Due.means(x, 40, 50, 30, 60);
+        Due.is("orders: sheets of two sizes, the less one doubled", x.orders(1, 0), 1);
+        Due.is("orders: sheets of two sizes, the other one doubled", x.orders(1, 1), 1);
+        Due.is("orders: sheets of two sizes, none doubled", x.orders(1, 2), 2);
+        Due.is("orders: sheets of two sizes, both doubled", x.orders(1, 3), 2);
+        Due.hangAll(x, 2, 42, 41, 31);
+        Due.means(x, -40, -50, -30, -60);
+        Due.is("orders: torn ones, the less one doubled", x.orders(2, 0), 1);
+        Due.is("orders: torn ones, the other one doubled", x.orders(2, 1), 1);
         x = Due.hung(5, 5, 31, 32, 22);
         x.wind(6);
         x.means(3, 1);

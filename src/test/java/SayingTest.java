@@ -161,6 +161,11 @@ public final class SayingTest {
         Due.is("which: all of them", y.which(0, 0), 3);
         y.wind(20);
         Due.is("fewest: in this wind", y.fewest(0, 0), 0);
+        y.wind(0);
+        Due.hangAll(y, 0, 11, 11, 11, 11, 11);
+        y.means(1, 5);
+        Due.is("fewest: all seven", y.fewest(0, 0), 7);
+        Due.is("which: all seven", y.which(0, 0), 127);
         Due.is("fewest: an empty line", y.fewest(3, 0), 0);
         Due.is("fewest: an empty line can't", y.fewest(3, 1), Due.NONE);
     }

@@ -52,6 +52,8 @@ public final class TextTest {
         Due.is("town: seven", Due.town(x, "line 3 red 1 red 2 red 3 red 4 red 5 red 6 red 7"), 1);
         Due.row(x, 3, "31 32 33 34 35 36 37");
         Due.is("town: meanings", Due.town(x, "meaning 0 9999;meaning 9 - 999;meaning 1 0;meaning 2 -0;forget 4;forget 3"), 6);
+        x.means(8, 1);
+        Due.is("town: forget", Due.town(x, "meaning 9 5; forget 9; forget 8; meaning 9 -999"), 4);
         int[] due = {9999, 0, 0, Due.NONE, Due.NONE, 7, Due.NONE, Due.NONE, Due.NONE, -999};
         for (int meaning = 0; meaning < 10; meaning++) {
             Due.is("number " + meaning, x.number(meaning), due[meaning]);
@@ -136,6 +138,10 @@ public final class TextTest {
         fault(8, "meaning -1 1");
         fault(9, "meaning 1");
         fault(10, "meaning 1 10000");
+        fault(10, "meaning 1 99990");
+        fault(10, "meaning 1 ?5");
+        fault(0, "windz 1");
+        fault(0, "awind 1");
         fault(11, "meaning 1 -1000");
         fault(11, "meaning 1 -");
         fault(11, "meaning 1 --1");

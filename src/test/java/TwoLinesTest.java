@@ -79,5 +79,10 @@ public final class TwoLinesTest {
         x.like(2, 0);
         x.take(0);
         Due.is("best: another line", x.best(2), 2);
+        x = new LinenSigns();
+        Due.hangAll(x, 1, 11, 1);
+        // 11 in winds 0 and 1, 10 in wind 2
+        Due.means(x, 0, 11, 10);
+        Due.is("best: in one wind", x.best(2), 1);
     }
 }
