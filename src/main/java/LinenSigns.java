@@ -1102,8 +1102,8 @@ public final class LinenSigns {
         }
 
         private int meaningBit(int worth) {
-            int readSo = town.readAs(worth);
-            return readSo == NO_MEANING ? 0 : 1 << readSo;
+            int told = town.readAs(worth);
+            return told == NO_MEANING ? 0 : 1 << told;
         }
     }
 
