@@ -6,7 +6,7 @@ import java.util.TreeSet;
 
 /**
  * The document's words once more, in the slowest and plainest way, with the Java library;
- * written apart from LinenSigns, to be compared with it by RandomRunsTest.
+ * to be compared with LinenSigns by RandomRunsTest. It shares how LinenSigns understands the document.
  */
 final class PlainTown {
     record Garment(int kind, int size, int wet) {
