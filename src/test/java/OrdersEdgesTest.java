@@ -1,3 +1,7 @@
+import java.util.ArrayList;
+import java.util.Arrays;
+import java.util.List;
+
 /** Promises 26 to 31, each sentence that names a boundary; what is refused stands in RefusedTest. */
 public final class OrdersEdgesTest {
     public static void main(String[] args) {
@@ -8,6 +12,7 @@ public final class OrdersEdgesTest {
         ordersInThisWind();
         mostAndLeastOfNoneAndOne();
         mostAndLeastOfSeven();
+        leastAskedFirst();
         orderOfNoneAndOne();
         orderByTheFarthestNumbers();
         orderAsNearBothWays();
@@ -19,6 +24,8 @@ public final class OrdersEdgesTest {
         canLeastAndGreatestMeaning();
         canOfAnEmptyLine();
         canOnlyWhatIsRead();
+        canEachWorth();
+        allRowsHungByHand();
         Due.end();
     }
 
@@ -128,6 +135,19 @@ public final class OrdersEdgesTest {
         Due.is("most of both", x.most(0), 2880 - 90);
         Due.is("least of both", x.least(0), -2880 + 90);
         Due.row(x, 0, "49 31 31 31 31 31 19");
+    }
+
+    private static void leastAskedFirst() {
+        LinenSigns x = Due.hung(31, 19);
+        Due.is("least", x.least(0), 90);
+        Due.is("least of another line", x.least(1), 0);
+        x.turn(0, 1, 4);
+        Due.is("least then", x.least(0), -180);
+        x.wind(2);
+        Due.is("least in another wind", x.least(0), -90);
+        x = Due.hung(31, 19);
+        Due.is("most", x.most(0), 180);
+        Due.is("most of another line", x.most(1), 0);
     }
 
     // ---- promise 29
@@ -297,5 +317,103 @@ public final class OrdersEdgesTest {
         Due.is("can: of several the least", x.can(0), 0b0110);
         x.wind(7);
         Due.is("can: nothing is seen", x.can(0), 0b0100);
+    }
+
+    /** Each worth from -89 to 98 on its own, between two others that have meanings. */
+    private static void canEachWorth() {
+        for (int worth = -89; worth <= 98; worth++) {
+            LinenSigns x = new LinenSigns();
+            int tens = Math.floorDiv(worth, 10);
+            if (tens != 0) {
+                x.hang(0, tens < 0 ? 4 : 1, Math.abs(tens));
+            }
+            if (worth != 10 * tens) {
+                x.hang(0, 0, worth - 10 * tens);
+            }
+            Due.means(x, worth - 1, worth + 1);
+            x.means(9, worth);
+            Due.is("can: worth " + worth, x.can(0), 1 << 9);
+            Due.is("worths: worth " + worth, x.worths(0), 1);
+        }
+    }
+
+    // ---- "all rows of its GARMENTS", each hung by hand and asked for its WORTH
+
+    private static final int[][] ROWS = {
+        {}, {57}, {31, 4}, {21, 5, 21}, {11, 2, 31}, {12, 31, 11, 49}, {42, 31, 41, 1}, {12, 3, 21, 31, 41},
+        {21, 51, 21, 51, 1}, {22, 13, 31, 4, 1, 51}, {23, 22, 21, 32, 31, 3}, {31, 19, 32, 48, 7, 51, 21},
+        {21, 22, 51, 52, 3, 31, 1}, {4, 13, 22, 31, 5, 14, 41}, {9, 18, 27, 36, 45, 54, 33}};
+
+    private static void allRowsHungByHand() {
+        for (int[] row : ROWS) {
+            for (int wind : new int[] {0, 3, 6}) {
+                byHand(row, wind);
+            }
+        }
+    }
+
+    private static void byHand(int[] row, int wind) {
+        List<int[]> all = new ArrayList<>();
+        addOrders(all, new int[row.length], 0, 0);
+        int[] worths = new int[all.size()];
+        for (int i = 0; i < worths.length; i++) {
+            worths[i] = hungBy(row, all.get(i), wind).worth(0);
+        }
+        int most = Arrays.stream(worths).max().getAsInt();
+        int least = Arrays.stream(worths).min().getAsInt();
+        String name = Arrays.toString(row) + " in wind " + wind + ": ";
+        LinenSigns x = hungBy(row, all.get(0), wind);
+        int[] numbers = {14, 7, 40, Math.max(-999, least), most, (least + most) / 2, -35, 0, 8};
+        Due.means(x, numbers);
+        Due.is(name + "most", x.most(0), most);
+        Due.is(name + "least", x.least(0), least);
+        Due.is(name + "worths", x.worths(0), Arrays.stream(worths).distinct().count());
+        int can = 0;
+        for (int meaning = 0; meaning < 9; meaning++) {
+            int asked = meaning;
+            long readSo = Arrays.stream(worths).filter(worth -> nearest(numbers, worth) == asked).count();
+            Due.is(name + "orders", x.orders(0, meaning), readSo);
+            can |= readSo > 0 ? 1 << meaning : 0;
+        }
+        Due.is(name + "can", x.can(0), can);
+        for (int number : new int[] {-9999, 9999, least + 1, most - 1, (least + most) / 2, 13, -20}) {
+            int first = 0;
+            for (int i = 0; i < worths.length; i++) {
+                first = Math.abs(worths[i] - number) < Math.abs(worths[first] - number) ? i : first;
+            }
+            LinenSigns y = hungBy(row, all.get(0), wind);
+            Due.is(name + "order " + number, y.order(0, number), worths[first]);
+            Due.row(y, 0, Due.row(hungBy(row, all.get(first), wind), 0));
+        }
+    }
+
+    private static int nearest(int[] numbers, int worth) {
+        int nearest = 0;
+        for (int i = 1; i < numbers.length; i++) {
+            nearest = Math.abs(numbers[i] - worth) < Math.abs(numbers[nearest] - worth) ? i : nearest;
+        }
+        return nearest;
+    }
+
+    /** All orders, the least pegs first. */
+    private static void addOrders(List<int[]> all, int[] pegs, int place, int hung) {
+        if (place == pegs.length) {
+            all.add(pegs.clone());
+        }
+        for (int peg = 0; peg < pegs.length; peg++) {
+            if ((hung >> peg & 1) == 0) {
+                pegs[place] = peg;
+                addOrders(all, pegs, place + 1, hung | 1 << peg);
+            }
+        }
+    }
+
+    private static LinenSigns hungBy(int[] row, int[] pegs, int wind) {
+        LinenSigns x = new LinenSigns();
+        x.wind(wind);
+        for (int peg : pegs) {
+            x.hang(0, row[peg] / 10, row[peg] % 10);
+        }
+        return x;
     }
 }

@@ -21,6 +21,7 @@ public final class TextEdgesTest {
         aFullTape();
         faultsOfAFullTape();
         oneToSevenGarments();
+        garmentsBehindTheFirst();
         anEighthGarment();
         wetOrNot();
         whatHungThereIsGone();
@@ -323,6 +324,30 @@ public final class TextEdgesTest {
             fault("line 0 " + names[kind].substring(1) + " 1", 7);
             fault("line 0 " + names[kind].substring(0, names[kind].length() - 1) + " 1", 7);
             fault(names[kind] + " 1", 0);
+        }
+    }
+
+    /** Garments 2 to 7 are told as the first one is: each kind, and each way to end too early or to go wrong. */
+    private static void garmentsBehindTheFirst() {
+        String[] names = {"linen", "sheet", "stocking", "red", "torn", "black"};
+        for (int ahead = 1; ahead <= 6; ahead++) {
+            String first = "line 0" + " red1".repeat(ahead) + " ";
+            int at = first.length();
+            for (int kind = 0; kind < 6; kind++) {
+                String name = names[kind];
+                LinenSigns x = new LinenSigns();
+                Due.is(name + " behind " + ahead, Rich.tell(x, first + name + " 9 wet 8"), 1);
+                Due.is("its kind", x.of(0, ahead, 0), kind);
+                Due.is("its size", x.of(0, ahead, 1), 9);
+                Due.is("its wet", x.of(0, ahead, 2), 8);
+                fault(first + name, at + name.length());
+                fault(first + name + ";", at + name.length());
+                fault(first + name + " 0", at + name.length() + 1);
+                fault(first + name + " 10", at + name.length() + 1);
+                fault(first + name + " 1 wet", at + name.length() + 6);
+                fault(first + name + " 1 wet 10", at + name.length() + 7);
+                fault(first + name + " 1 1", at + name.length() + 3);
+            }
         }
     }
 
