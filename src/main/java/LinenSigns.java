@@ -1038,16 +1038,20 @@ public final class LinenSigns {
                 if (mayHang(peg)) {
                     hungPegs |= 1 << peg;
                     pegs[place] = peg;
-                    if (sayings[peg] == 0) {
-                        hangNext(place + 1, worth, stockings);
-                    } else {
-                        int kind = row.kinds[peg];
-                        int then = worthAfter(worth, stockings, kind, row.sizes[peg]);
-                        hangNext(place + 1, then, stockingsAfter(stockings, kind));
-                    }
+                    sayThenHangNext(peg, place, worth, stockings);
                     hungPegs &= ~(1 << peg);
                 }
             }
+        }
+
+        private void sayThenHangNext(int peg, int place, int worth, int stockings) {
+            if (sayings[peg] == 0) {
+                hangNext(place + 1, worth, stockings);
+                return;
+            }
+            int kind = row.kinds[peg];
+            int then = worthAfter(worth, stockings, kind, row.sizes[peg]);
+            hangNext(place + 1, then, stockingsAfter(stockings, kind));
         }
 
         private boolean mayHang(int peg) {
@@ -1059,8 +1063,10 @@ public final class LinenSigns {
         }
 
         private void arrive(int worth) {
-            int place = worth + WORTH_LIMIT;
-            met[place >> 6] |= 1L << (place & 63);
+            if (isWorth(worth)) {
+                int place = worth + WORTH_LIMIT;
+                met[place >> 6] |= 1L << (place & 63);
+            }
             if (meaning != NO_MEANING && town.readAs(worth) == meaning) {
                 readSo += weight;
             }

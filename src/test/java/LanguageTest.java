@@ -27,6 +27,7 @@ public final class LanguageTest {
         Due.holds("no fill of what isn't numbers", !found(code, "Arrays\\.fill\\([^)]*(true|false)\\)"));
         library(code);
         methodsAreShort(code);
+        onlyStaticOnesCallThemselves(code);
         Due.end();
     }
 
@@ -62,5 +63,21 @@ public final class LanguageTest {
             }
         }
         Due.is("each method ends", start, -1);
+    }
+
+    /** Rule 8: one that isn't static may only call another one that calls it. */
+    private static void onlyStaticOnesCallThemselves(String code) {
+        Matcher methods = Pattern.compile("(?m)^( +)((?:\\w+ )*)\\w+(?:\\[\\])? (\\w+)\\([^)]*\\) \\{$").matcher(code);
+        int found = 0;
+        while (methods.find()) {
+            int end = code.indexOf("\n" + methods.group(1) + "}", methods.end());
+            if (methods.group(2).contains("new ") || methods.group(2).contains("else ") || end < 0) {
+                continue;
+            }
+            found++;
+            boolean isOwn = found(code.substring(methods.end(), end), "(?<![\\w.])" + methods.group(3) + "\\(");
+            Due.holds(methods.group(3) + " does not call itself", methods.group(2).contains("static ") || !isOwn);
+        }
+        Due.holds("methods were found", found > 100);
     }
 }
